@@ -1,0 +1,149 @@
+import java.util.Random;
+import java.util.function.IntSupplier;
+
+/** Long mixed runs of calls, each answer held against the plain Reference. */
+public final class ReferenceTest {
+    private static final int REFUSED = Reference.REFUSED;
+    private static final int[] ODD = {-1, -2, Integer.MIN_VALUE, Integer.MAX_VALUE, 160, 161, 101, 6};
+
+    private final Checks checks;
+    private final Random random;
+    private final TermServer server = new TermServer();
+    private final Reference reference = new Reference();
+    private final String title;
+    private final int mostTerms;
+    private final int mostAxioms;
+    private final int roles;
+
+    private ReferenceTest(Checks checks, int seed, int mostTerms, int mostAxioms, int roles) {
+        this.checks = checks;
+        this.random = new Random(seed);
+        this.title = "seed " + seed;
+        this.mostTerms = mostTerms;
+        this.mostAxioms = mostAxioms;
+        this.roles = roles;
+    }
+
+    public static void main(String[] args) {
+        Checks checks = new Checks("ReferenceTest");
+        int runs = args.length > 0 ? Integer.parseInt(args[0]) : 150;
+        for (int seed = 0; seed < runs && checks.allDue(); seed++) {
+            new ReferenceTest(checks, seed, 6 + seed % 17, 3 + seed % 19, 1 + seed % 6).run(512);
+        }
+        for (int seed = 1000; seed < 1000 + runs / 50 && checks.allDue(); seed++) {
+            new ReferenceTest(checks, seed, 60, 60, 6).run(512);
+        }
+        checks.end();
+    }
+
+    private void run(int calls) {
+        for (int call = 0; call < calls && checks.allDue(); call++) {
+            boolean early = call < mostTerms + mostAxioms;
+            step(call, early && random.nextInt(4) > 0 ? random.nextInt(8) : random.nextInt(20));
+        }
+    }
+
+    private void step(int call, int kind) {
+        int d = term();
+        int e = term();
+        int r = role();
+        int s = role();
+        int t = role();
+        int i = random.nextInt(6) - 1;
+        String at = title + " call " + call + ": ";
+        boolean room = reference.size() < mostTerms;
+        boolean open = reference.told() < mostAxioms;
+        if (kind == 0 && room) {
+            same(at + "name", server::name, reference.name());
+        } else if (kind == 1 && room) {
+            same(at + "both " + d + " " + e, () -> server.both(d, e), reference.both(d, e));
+        } else if (kind <= 3 && room) {
+            same(at + "some " + r + " " + d, () -> server.some(r, d), reference.some(r, d));
+        } else if (kind <= 5 && open) {
+            same(at + "below " + d + " " + e, () -> server.below(d, e), reference.below(d, e));
+        } else if (kind == 6 && open) {
+            tellOther(at, d, e, r, s, t);
+        } else if (kind == 7 && random.nextInt(3) == 0) {
+            int axiom = random.nextInt(reference.told() + 2);
+            same(at + "retract " + axiom, () -> server.retract(axiom) ? 1 : 0, reference.retract(axiom));
+        } else {
+            ask(at, random.nextInt(11), d, e, r, i);
+        }
+    }
+
+    private void tellOther(String at, int d, int e, int r, int s, int t) {
+        switch (random.nextInt(3)) {
+            case 0:
+                same(at + "equal " + d + " " + e, () -> server.equal(d, e), reference.equal(d, e));
+                break;
+            case 1:
+                same(at + "roleBelow " + r + " " + s, () -> server.roleBelow(r, s), reference.roleBelow(r, s));
+                break;
+            default:
+                same(at + "chain " + r + " " + s + " " + t, () -> server.chain(r, s, t), reference.chain(r, s, t));
+                break;
+        }
+    }
+
+    private void ask(String at, int kind, int d, int e, int r, int i) {
+        String pair = d + " " + e;
+        switch (kind) {
+            case 0:
+                same(at + "isBelow " + pair, () -> server.isBelow(d, e) ? 1 : 0, reference.isBelow(d, e));
+                break;
+            case 1:
+                same(at + "supers " + d, () -> server.supers(d), reference.supers(d));
+                break;
+            case 2:
+                same(at + "sup " + d + " " + i, () -> server.sup(d, i), reference.sup(d, i));
+                break;
+            case 3:
+                same(at + "direct " + pair, () -> server.direct(d, e) ? 1 : 0, reference.direct(d, e));
+                break;
+            case 4:
+                same(at + "twin " + d, () -> server.twin(d), reference.twin(d));
+                break;
+            case 5:
+                same(at + "common " + pair + " " + i, () -> server.common(d, e, i), reference.common(d, e, i));
+                break;
+            case 6:
+                same(at + "why " + pair, () -> server.why(d, e), reference.why(d, e));
+                break;
+            case 7:
+                same(at + "has " + d + " " + r + " " + e, () -> server.has(d, r, e) ? 1 : 0, reference.has(d, r, e));
+                break;
+            case 8:
+                same(at + "count " + i, () -> server.count(i), reference.count(i));
+                break;
+            default:
+                reasons(at);
+                break;
+        }
+    }
+
+    private void reasons(String at) {
+        for (int i = -1; i < 8; i++) {
+            int at0 = i;
+            same(at + "reason " + i, () -> server.reason(at0), reference.reason(i));
+        }
+        same(at + "count 6", () -> server.count(6), reference.count(6));
+    }
+
+    private void same(String what, IntSupplier call, int want) {
+        int got;
+        try {
+            got = call.getAsInt();
+        } catch (IndexOutOfBoundsException e) {
+            got = e.getClass() == IndexOutOfBoundsException.class ? REFUSED : Integer.MIN_VALUE;
+        }
+        checks.due(what, got, want);
+    }
+
+    private int term() {
+        return random.nextInt(60) == 0 ? ODD[random.nextInt(ODD.length)] : random.nextInt(reference.size());
+    }
+
+    private int role() {
+        return random.nextInt(60) == 0 ? ODD[random.nextInt(ODD.length)] : random.nextInt(roles);
+    }
+}
