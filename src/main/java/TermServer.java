@@ -169,7 +169,6 @@ public final class TermServer {
                 reasonCount++;
             }
         }
-        closure.spoil();
         return reasonCount;
     }
 
@@ -365,8 +364,12 @@ public final class TermServer {
             return width;
         }
 
-        void clear() {
-            Arrays.fill(words, 0L);
+        /** Clears the first rows alone, since most objects use few of them. */
+        void clear(int rows) {
+            int end = Math.min(rows * wordsARow, words.length);
+            for (int at = 0; at < end; at++) {
+                words[at] = 0L;
+            }
         }
     }
 
@@ -384,6 +387,8 @@ public final class TermServer {
         private final int[] somes;
         /** By description: all BOTH that it is a part of. */
         final Bits boths;
+        /** By role: all that it was made a SOME of. */
+        final Bits fillers;
         private int size;
         private int names;
 
@@ -393,6 +398,7 @@ public final class TermServer {
             rights = new int[MOST_TERMS];
             somes = new int[ROLES * MOST_TERMS];
             boths = new Bits(MOST_TERMS, MOST_TERMS);
+            fillers = new Bits(ROLES, MOST_TERMS);
             Arrays.fill(somes, NONE);
             kinds[ALL] = FIXED;
             kinds[NOTHING] = FIXED;
@@ -458,6 +464,7 @@ public final class TermServer {
                 boths.put(right, made);
             } else if (kind == SOME) {
                 somes[left * MOST_TERMS + right] = made;
+                fillers.put(left, right);
             }
             return made;
         }
@@ -634,15 +641,19 @@ public final class TermServer {
             saturate();
         }
 
-        /** Empties all; no description that is there needs to be admitted while none was begun. */
+        /**
+         * Empties all; no description that is there needs to be admitted while none was begun. What is
+         * heard of axioms in force after this may stay: the others join it at the next catching up.
+         */
         void forget() {
-            facts.clear();
-            sources.clear();
-            fresh.clear();
-            freshRows.clear();
-            toldAbove.clear();
-            toldRoles.clear();
-            toldChains.clear();
+            int rows = terms.size() * RELATIONS;
+            facts.clear(rows);
+            sources.clear(rows);
+            fresh.clear(rows);
+            freshRows.clear(1);
+            toldAbove.clear(terms.size());
+            toldRoles.clear(ROLES);
+            toldChains.clear(ROLES * ROLES);
             admitted = terms.size();
             heard = 0;
             spoiled = false;
@@ -799,10 +810,10 @@ public final class TermServer {
                 add(c, s, d);
             }
             int upper = row(d, ABOVE);
-            for (int e = facts.next(upper, 0); e < MOST_TERMS; e = facts.next(upper, e + 1)) {
-                int some = terms.findSome(r, e);
-                if (some != NONE) {
-                    add(c, ABOVE, some);
+            Bits fillers = terms.fillers;
+            for (int e = fillers.next(r, 0); e < MOST_TERMS; e = fillers.next(r, e + 1)) {
+                if (facts.holds(upper, e)) {
+                    add(c, ABOVE, terms.findSome(r, e));
                 }
             }
         }
