@@ -43,6 +43,9 @@ public final class WorldsTest {
         for (int seed = 0; seed < 300 && checks.allDue(); seed++) {
             WorldsTest test = new WorldsTest(checks, seed);
             test.makeTerms();
+            if (!checks.allDue()) {
+                break;
+            }
             test.tellAxioms(2 + seed % 8);
             test.askAll();
             test.holdNoAgainstOwnWorld();
@@ -58,7 +61,7 @@ public final class WorldsTest {
             server.name();
             terms.add(new int[] {'n'});
         }
-        while (terms.size() < DESCRIPTIONS) {
+        for (int tries = 0; terms.size() < DESCRIPTIONS && tries < 1000; tries++) {
             int d = random.nextInt(terms.size());
             int e = random.nextInt(terms.size());
             int r = random.nextInt(ROLES);
@@ -68,6 +71,7 @@ public final class WorldsTest {
                 terms.add(some ? new int[] {'s', r, d} : new int[] {'b', d, e});
             }
         }
+        checks.due(title + "descriptions made", terms.size(), DESCRIPTIONS);
     }
 
     private void tellAxioms(int many) {
