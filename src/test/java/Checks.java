@@ -39,6 +39,14 @@ final class Checks {
         return wrong == 0;
     }
 
+    int done() {
+        return done;
+    }
+
+    int wrong() {
+        return wrong;
+    }
+
     void end() {
         System.out.println(title + ": " + done + " checks, " + wrong + " wrong");
         if (wrong != 0) {

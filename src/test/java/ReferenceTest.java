@@ -4,6 +4,7 @@ import java.util.function.IntSupplier;
 /** Long mixed runs of calls, each answer held against the plain Reference. */
 public final class ReferenceTest {
     private static final int REFUSED = Reference.REFUSED;
+    private static final int REASONS_READ = 9;
     private static final int[] ODD = {-1, -2, Integer.MIN_VALUE, Integer.MAX_VALUE, 160, 161, 101, 6};
 
     private final Checks checks;
@@ -14,6 +15,7 @@ public final class ReferenceTest {
     private final int mostTerms;
     private final int mostAxioms;
     private final int roles;
+    private int calls = 0;
 
     private ReferenceTest(Checks checks, int seed, int mostTerms, int mostAxioms, int roles) {
         this.checks = checks;
@@ -36,21 +38,22 @@ public final class ReferenceTest {
         checks.end();
     }
 
-    private void run(int calls) {
-        for (int call = 0; call < calls && checks.allDue(); call++) {
-            boolean early = call < mostTerms + mostAxioms;
-            step(call, early && random.nextInt(4) > 0 ? random.nextInt(8) : random.nextInt(20));
+    /** What an object answers after its 512th call is free, so no run goes on behind it. */
+    private void run(int most) {
+        while (calls < most && checks.allDue()) {
+            boolean early = calls < mostTerms + mostAxioms;
+            step(early && random.nextInt(4) > 0 ? random.nextInt(8) : random.nextInt(20), most - calls);
         }
     }
 
-    private void step(int call, int kind) {
+    private void step(int kind, int callsLeft) {
         int d = term();
         int e = term();
         int r = role();
         int s = role();
         int t = role();
-        int i = random.nextInt(6) - 1;
-        String at = title + " call " + call + ": ";
+        int i = random.nextInt(9) - 1;
+        String at = title + " call " + calls + ": ";
         boolean room = reference.size() < mostTerms;
         boolean open = reference.told() < mostAxioms;
         if (kind == 0 && room) {
@@ -67,7 +70,7 @@ public final class ReferenceTest {
             int axiom = random.nextInt(reference.told() + 2);
             same(at + "retract " + axiom, () -> server.retract(axiom) ? 1 : 0, reference.retract(axiom));
         } else {
-            ask(at, random.nextInt(11), d, e, r, i);
+            ask(at, random.nextInt(callsLeft < REASONS_READ ? 9 : 11), d, e, r, i);
         }
     }
 
@@ -122,15 +125,15 @@ public final class ReferenceTest {
     }
 
     private void reasons(String at) {
-        for (int i = -1; i < 8; i++) {
-            int at0 = i;
-            same(at + "reason " + i, () -> server.reason(at0), reference.reason(i));
+        for (int i = -1; i < REASONS_READ - 1; i++) {
+            int place = i;
+            same(at + "reason " + i, () -> server.reason(place), reference.reason(i));
         }
-        same(at + "count 6", () -> server.count(6), reference.count(6));
     }
 
     private void same(String what, IntSupplier call, int want) {
         int got;
+        calls++;
         try {
             got = call.getAsInt();
         } catch (IndexOutOfBoundsException e) {

@@ -61,7 +61,7 @@ public final class WorldsTest {
             server.name();
             terms.add(new int[] {'n'});
         }
-        for (int tries = 0; terms.size() < DESCRIPTIONS && tries < 1000; tries++) {
+        for (int tries = 0; terms.size() < DESCRIPTIONS && tries < 120; tries++) {
             int d = random.nextInt(terms.size());
             int e = random.nextInt(terms.size());
             int r = random.nextInt(ROLES);
