@@ -157,6 +157,7 @@ public final class MakingEdgesTest extends Edges {
         refused("of a new object", () -> y.both(NOTHING, 2));
     }
 
+    /** Of what is not there no BOTH could be new: so it is refused, and not answered by NONE. */
     private void bothNotThereWhenFull() {
         TermServer x = fullOfNames();
         refusesOthers(x, "both 0 -", d -> x.both(ALL, d));

@@ -5,6 +5,9 @@ import java.util.function.IntSupplier;
 public final class ReferenceTest {
     private static final int REFUSED = Reference.REFUSED;
     private static final int REASONS_READ = 9;
+    private static final int DESCRIPTIONS = 160;
+    private static final int AXIOMS = 100;
+    private static final int BEHIND_LIMITS = 512;
     private static final int[] ODD = {-1, -2, Integer.MIN_VALUE, Integer.MAX_VALUE, 160, 161, 101, 6};
 
     private final Checks checks;
@@ -16,6 +19,7 @@ public final class ReferenceTest {
     private final int mostAxioms;
     private final int roles;
     private int calls = 0;
+    private int seldom = 0;
 
     private ReferenceTest(Checks checks, int seed, int mostTerms, int mostAxioms, int roles) {
         this.checks = checks;
@@ -35,14 +39,27 @@ public final class ReferenceTest {
         for (int seed = 1000; seed < 1000 + runs / 50 && checks.allDue(); seed++) {
             new ReferenceTest(checks, seed, 60, 60, 6).run(512);
         }
+        for (int seed = 2000; seed < 2000 + runs / 30 && checks.allDue(); seed++) {
+            ReferenceTest full = new ReferenceTest(checks, seed, BEHIND_LIMITS, BEHIND_LIMITS, 1 + seed % 6);
+            full.makeNames(DESCRIPTIONS - 10 - seed % 40);
+            full.run(512);
+        }
         checks.end();
+    }
+
+    /** Names that are seldom spoken of, so that what is spoken of has the last numbers. */
+    private void makeNames(int many) {
+        for (int i = 0; i < many; i++) {
+            same(title + " name", server::name, reference.name());
+        }
+        seldom = many - 3;
     }
 
     /** What an object answers after its 512th call is free, so no run goes on behind it. */
     private void run(int most) {
         while (calls < most && checks.allDue()) {
             boolean early = calls < mostTerms + mostAxioms;
-            step(early && random.nextInt(4) > 0 ? random.nextInt(8) : random.nextInt(20), most - calls);
+            step(early && calls < 400 && random.nextInt(4) > 0 ? random.nextInt(8) : random.nextInt(20), most - calls);
         }
     }
 
@@ -54,8 +71,8 @@ public final class ReferenceTest {
         int t = role();
         int i = random.nextInt(9) - 1;
         String at = title + " call " + calls + ": ";
-        boolean room = reference.size() < mostTerms;
-        boolean open = reference.told() < mostAxioms;
+        boolean room = reference.size() < mostTerms && (reference.size() < DESCRIPTIONS || random.nextInt(9) == 0);
+        boolean open = reference.told() < mostAxioms && (reference.told() < AXIOMS || random.nextInt(9) == 0);
         if (kind == 0 && room) {
             same(at + "name", server::name, reference.name());
         } else if (kind == 1 && room) {
@@ -143,7 +160,13 @@ public final class ReferenceTest {
     }
 
     private int term() {
-        return random.nextInt(60) == 0 ? ODD[random.nextInt(ODD.length)] : random.nextInt(reference.size());
+        if (random.nextInt(60) == 0) {
+            return ODD[random.nextInt(ODD.length)];
+        }
+        if (seldom == 0 || random.nextInt(30) == 0) {
+            return random.nextInt(reference.size());
+        }
+        return seldom + random.nextInt(reference.size() - seldom);
     }
 
     private int role() {

@@ -1,104 +1,88 @@
-import java.lang.reflect.Array;
-import java.lang.reflect.Field;
-import java.lang.reflect.Modifier;
-import java.util.ArrayDeque;
-import java.util.Collections;
-import java.util.Deque;
-import java.util.IdentityHashMap;
-import java.util.Set;
+import com.sun.management.ThreadMXBean;
+import java.lang.management.ManagementFactory;
 
 /**
- * The room of a run: even a run that made as many objects as an object has calls stays within it,
- * and calls on an object neither make it grow nor take long where they are dearest.
+ * The room of a run: 512 calls on one object, the dearest ones among them, make fewer bytes than the
+ * room has elements. An element takes a byte or more and an object sixteen, so both counts hold.
  */
 public final class RoomTest {
     private static final int CALLS = 512;
-    private static final int MOST_OBJECTS = 600000;
     private static final int MOST_ELEMENTS = 7300000;
+    private static final int NAMES_END = 60;
+    private static final int BELOW_ALL = 60;
 
-    private static int objects;
-    private static int elements;
+    private final Checks checks;
+    private TermServer server;
+    private int calls = 0;
 
-    public static void main(String[] args) throws ReflectiveOperationException {
+    private RoomTest(Checks checks) {
+        this.checks = checks;
+    }
+
+    public static void main(String[] args) {
         Checks checks = new Checks("RoomTest");
-        TermServer server = new TermServer();
-        measure(server);
-        int objectsAtFirst = objects;
-        int elementsAtFirst = elements;
-        System.out.println("RoomTest: an object takes " + objects + " objects and " + elements + " elements");
-        checks.due("too many objects", (long) objects * CALLS > MOST_OBJECTS, false);
-        checks.due("too many elements", (long) elements * CALLS > MOST_ELEMENTS, false);
-        fill(server);
-        ask(checks, server);
-        measure(server);
-        checks.due("objects after many calls", objects, objectsAtFirst);
-        checks.due("elements after many calls", elements, elementsAtFirst);
+        // The first run loads classes, which is not the program's own room.
+        new RoomTest(checks).run();
+        RoomTest measured = new RoomTest(checks);
+        long before = bytesMade();
+        measured.run();
+        long made = bytesMade() - before;
+        System.out.println("RoomTest: a run of " + measured.calls + " calls made " + made + " bytes");
+        checks.due("calls", measured.calls, CALLS);
+        checks.due("too many bytes", made >= MOST_ELEMENTS, false);
         checks.end();
     }
 
+    private void run() {
+        server = new TermServer();
+        fill();
+        for (int round = 0; calls <= CALLS - 6; round++) {
+            ask(round % BELOW_ALL + 1);
+        }
+        while (calls < CALLS) {
+            due("names", server.count(1), NAMES_END - 2);
+        }
+    }
+
     /** As much as the limits leave room for, and so told that nearly all is linked with all. */
-    private static void fill(TermServer server) {
-        for (int d = 2; d < 60; d++) {
-            server.name();
+    private void fill() {
+        for (int d = 2; d < NAMES_END; d++) {
+            due("name", server.name(), d);
         }
-        for (int d = 60; d < 160; d++) {
-            server.some(d % 6, d - 58);
+        for (int d = NAMES_END; d < 160; d++) {
+            due("some", server.some(d % 6, d - 58), d);
         }
-        for (int a = 1; a <= 60; a++) {
-            server.below(0, 100 + a - 1);
+        for (int a = 1; a <= BELOW_ALL; a++) {
+            due("below", server.below(0, 100 + a - 1), a);
         }
         for (int r = 0; r < 6; r++) {
             for (int s = 0; s < 6; s++) {
-                server.chain(r, s, (r + s) % 6);
+                due("chain", server.chain(r, s, (r + s) % 6), BELOW_ALL + 1 + 6 * r + s);
             }
         }
-        server.roleBelow(0, 1);
-        server.below(59, 58);
-        server.below(58, 57);
-        server.below(59, 57);
+        due("roleBelow", server.roleBelow(0, 1), 97);
+        due("below", server.below(59, 58), 98);
+        due("below", server.below(58, 57), 99);
+        due("below", server.below(59, 57), 100);
     }
 
-    private static void ask(Checks checks, TermServer server) {
-        checks.due("axioms", server.count(2), 100);
-        checks.due("descriptions", server.count(0), 160);
-        for (int call = 0; call < 40; call++) {
-            checks.due("linked", server.has(call, 5, 0), true);
-            checks.due("empty ones", server.count(5), 1);
-            checks.due("why", server.why(59, 57), 2);
-            checks.due("common", server.common(59, 58, 0), 58);
-            checks.due("direct", server.direct(59, 57), false);
-            checks.due("retract", server.retract(call + 1), true);
-        }
+    /** Six calls; the last one makes the next round start anew. */
+    private void ask(int axiom) {
+        due("linked", server.has(axiom, 5, 0) ? 1 : 0, 1);
+        due("empty ones", server.count(5), 1);
+        due("why", server.why(59, 57), 2);
+        due("common", server.common(59, 58, 0), 58);
+        due("direct", server.direct(59, 57) ? 1 : 0, 0);
+        due("retract", server.retract(axiom) ? 1 : 0, 1);
     }
 
-    private static void measure(Object root) throws ReflectiveOperationException {
-        objects = 0;
-        elements = 0;
-        Set<Object> seen = Collections.newSetFromMap(new IdentityHashMap<>());
-        Deque<Object> open = new ArrayDeque<>();
-        open.add(root);
-        while (!open.isEmpty()) {
-            Object next = open.remove();
-            if (seen.add(next)) {
-                objects++;
-                if (next.getClass().isArray()) {
-                    elements += Array.getLength(next);
-                } else {
-                    measureFields(next, open);
-                }
-            }
-        }
+    private void due(String call, int got, int want) {
+        calls++;
+        checks.due(call, got, want);
     }
 
-    private static void measureFields(Object owner, Deque<Object> open) throws ReflectiveOperationException {
-        for (Field field : owner.getClass().getDeclaredFields()) {
-            if (!Modifier.isStatic(field.getModifiers())) {
-                elements++;
-                field.setAccessible(true);
-                if (!field.getType().isPrimitive() && field.get(owner) != null) {
-                    open.add(field.get(owner));
-                }
-            }
-        }
+    private static long bytesMade() {
+        ThreadMXBean threads = (ThreadMXBean) ManagementFactory.getThreadMXBean();
+        return threads.getThreadAllocatedBytes(Thread.currentThread().getId());
     }
 }

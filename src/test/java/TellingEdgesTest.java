@@ -87,6 +87,7 @@ public final class TellingEdgesTest extends Edges {
         due("one that is made is there", x.below(x.name(), 4), 3);
     }
 
+    /** As with both, arguments are looked at first: the document tells no limit to what is refused. */
     private void belowNotThereWhenFull() {
         TermServer x = told(2, 100);
         refusesOthers(x, "below 0 -", d -> x.below(ALL, d));

@@ -492,7 +492,10 @@ public final class TermsEdgesTest extends Edges {
     private void equalIsBothWays() {
         TermServer x = names(3);
         x.below(2, 3);
+        due("one way", x.isBelow(2, 3), true);
+        due("not the other way", x.isBelow(3, 2), false);
         due("one way", x.twin(3), 3);
+        due("one way", x.twin(2), 2);
         x.below(3, 4);
         x.below(4, 2);
         due("round", x.twin(3), 2);
